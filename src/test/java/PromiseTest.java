@@ -1,43 +1,5 @@
 /** Each promise of the document: ordinary inputs, the edges that it names, and wrong inputs. */
-public final class PromiseTest {
-    private static final long ARGUMENT = Long.MIN_VALUE + 1;
-    private static final long STATE = Long.MIN_VALUE + 2;
-    private static final long OTHER = Long.MIN_VALUE + 3;
-    private static int wrong = 0;
-
-    private interface Call {
-        long answer();
-    }
-
-    /** Exactly the class that the document names: a class below it would be another exception. */
-    private static long outcome(Call call) {
-        try {
-            return call.answer();
-        } catch (RuntimeException e) {
-            return e.getClass() == IllegalArgumentException.class ? ARGUMENT
-                    : e.getClass() == IllegalStateException.class ? STATE : OTHER;
-        }
-    }
-
-    private static String text(long answer) {
-        return answer == ARGUMENT ? "throws IllegalArgumentException"
-                : answer == STATE ? "throws IllegalStateException"
-                : answer == OTHER ? "throws what no document names" : Long.toString(answer);
-    }
-
-    private static void due(String call, long want, Call made) {
-        long got = outcome(made);
-        if (got != want) {
-            wrong++;
-            System.out.println(call + " answered " + text(got) + ", due is " + text(want));
-        }
-    }
-
-    private static long crash(ExtentDisk d, int n) {
-        d.crash(n);
-        return 0;
-    }
-
+public final class PromiseTest extends Answers {
     private static ExtentDisk down() {
         ExtentDisk d = new ExtentDisk(8);
         d.fill(1, 10);
@@ -46,15 +8,6 @@ public final class PromiseTest {
         d.fill(1, 20);
         d.wish(0, 6);
         d.crash(0);
-        return d;
-    }
-
-    private static ExtentDisk withExtents(int blocks, int... sizes) {
-        ExtentDisk d = new ExtentDisk(blocks);
-        for (int i = 0; i < sizes.length; i++) {
-            d.fill(i, sizes[i]);
-            d.change(i, 1, 0);
-        }
         return d;
     }
 
@@ -69,7 +22,7 @@ public final class PromiseTest {
             due(of + " count(2)", 0, () -> d.count(2));
             due(of + " count(3)", 0, () -> d.count(3));
             due(of + " writes", 0, d::writes);
-            due(of + " isDown", 0, () -> d.isDown() ? 1 : 0);
+            due(of + " isDown", 0, () -> isDown(d));
             due(of + " doubled", 0, d::doubled);
             due(of + " extent(0, 0)", ARGUMENT, () -> d.extent(0, 0));
             for (int i = 0; i < 24; i++) {
@@ -320,10 +273,10 @@ public final class PromiseTest {
         due("two of three writes", 2, () -> d.change(0, 1, 0));
         d.fill(1, 61440);
         due("a change with no room writes nothing", ExtentDisk.FULL, () -> d.change(0, 1, 0));
-        due("and leaves the power on", 0, () -> d.isDown() ? 1 : 0);
+        due("and leaves the power on", 0, () -> isDown(d));
         d.drop();
         due("the third write", ExtentDisk.CUT, () -> d.change(0, 1, 0));
-        due("isDown", 1, () -> d.isDown() ? 1 : 0);
+        due("isDown", 1, () -> isDown(d));
         due("crash when down", STATE, () -> crash(d, 5));
         due("crash(NONE) when down", STATE, () -> crash(d, -1));
         due("crash when down, n wrong", ARGUMENT, () -> crash(d, 1001));
@@ -336,7 +289,7 @@ public final class PromiseTest {
         d.crash(2);
         due("the later word counts", 1, () -> d.change(0, 1, 0));
         d.crash(0);
-        due("0 fails at once", 1, () -> d.isDown() ? 1 : 0);
+        due("0 fails at once", 1, () -> isDown(d));
         due("and writes nothing", 5, d::writes);
     }
 
@@ -365,7 +318,7 @@ public final class PromiseTest {
     private static void recover() {
         ExtentDisk d = down();
         due("recover when down", 1, d::recover);
-        due("isDown behind it", 0, () -> d.isDown() ? 1 : 0);
+        due("isDown behind it", 0, () -> isDown(d));
         due("the tape behind it", 0, () -> d.count(2));
         due("a note behind it", 5, () -> d.note(0));
         due("a wish behind it", 5, () -> d.wish(0, 8));
@@ -385,15 +338,15 @@ public final class PromiseTest {
 
     private static void isDownAndWrites() {
         ExtentDisk d = withExtents(8, 1, 5000);
-        due("not down", 0, () -> d.isDown() ? 1 : 0);
+        due("not down", 0, () -> isDown(d));
         due("5 writes", 5, d::writes);
         d.fill(0, 5000);
         d.crash(1);
         d.change(0, 1, 0);
-        due("down", 1, () -> d.isDown() ? 1 : 0);
+        due("down", 1, () -> isDown(d));
         due("6 writes when down", 6, d::writes);
         d.recover();
-        due("up", 0, () -> d.isDown() ? 1 : 0);
+        due("up", 0, () -> isDown(d));
         due("6 writes behind recovery", 6, d::writes);
         d.change(0, 1, 0);
         due("7 writes", 7, d::writes);
@@ -455,9 +408,6 @@ public final class PromiseTest {
         isDownAndWrites();
         countAndDoubled();
         asManyAsThereIsRoomFor();
-        System.out.println(wrong == 0 ? "all answers are as due" : wrong + " answers are not as due");
-        if (wrong != 0) {
-            System.exit(1);
-        }
+        finish();
     }
 }
